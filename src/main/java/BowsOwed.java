@@ -20,6 +20,7 @@ public final class BowsOwed {
     private static final int BOOKED = 30;
     private static final int STEPS_KEPT = 30;
     private static final int NECKS = 5;
+    private static final int BEYOND_ALL = 2147483647;
 
     // Tokens. The signs + - * / ( ) ; < > = # stand for themselves, by their own numbers.
     private static final int UNKNOWN = 0;
@@ -324,7 +325,7 @@ public final class BowsOwed {
             return NONE;
         }
         int mildest = NONE;
-        int fewest = Integer.MAX_VALUE;
+        int fewest = BEYOND_ALL;
         for (int text = 0; text < now.texts; text++) {
             int ruined = foresee(n, text);
             if (ruined < fewest) {
@@ -617,19 +618,16 @@ public final class BowsOwed {
             return sum;
         }
 
-        /** The next of the people comes in as it was told, owing nobody and owed nothing. */
+        /**
+         * The next of the people comes in as it was told. Behind the count all is 0 in each state,
+         * so it isn't indoors, owes nobody and is owed nothing.
+         */
         void enter(People people) {
             int one = count;
-            if (one >= MOST_PEOPLE) {
-                return;
-            }
-            count = one + 1;
-            left[one] = people.backOf(one);
-            place[one] = people.placeOf(one);
-            indoors[one] = 0;
-            for (int other = 0; other < count; other++) {
-                setOwed(one, other, 0);
-                setOwed(other, one, 0);
+            if (within(one, 0, MOST_PEOPLE - 1)) {
+                left[one] = people.backOf(one);
+                place[one] = people.placeOf(one);
+                count = one + 1;
             }
         }
 
@@ -759,7 +757,7 @@ public final class BowsOwed {
         }
 
         void keepStep() {
-            State room = before[(eldest + steps) % STEPS_KEPT];
+            State room = step(steps);
             if (room != null) {
                 room.copyFrom(state);
             }
@@ -770,13 +768,18 @@ public final class BowsOwed {
             }
         }
 
+        private State step(int i) {
+            int at = (eldest + i) % STEPS_KEPT;
+            return within(at, 0, before.length - 1) ? before[at] : null;
+        }
+
         boolean takeBack(People people) {
             if (steps == 0) {
                 return false;
             }
             steps--;
             int told = state.count;
-            State was = before[(eldest + steps) % STEPS_KEPT];
+            State was = step(steps);
             if (was != null) {
                 state.copyFrom(was);
             }
@@ -824,7 +827,7 @@ public final class BowsOwed {
 
         /** Opens a clause by its first token. */
         void begin(int token) {
-            if (clauses < MOST_CLAUSES) {
+            if (within(clauses, 0, MOST_CLAUSES - 1)) {
                 deeds[clauses] = token;
                 clauses++;
             }
@@ -850,7 +853,7 @@ public final class BowsOwed {
 
         /** Adds a step of code: where it stands. */
         int emit(int token, int value) {
-            if (length < code.length) {
+            if (within(length, 0, code.length - 1)) {
                 code[length] = value * BASE + token;
                 length++;
             }
@@ -1584,7 +1587,7 @@ public final class BowsOwed {
             int all = Math.min(SETS, 1 << state.count) - 1;
             best[all] = 0;
             for (int ahead = all - 1; ahead >= 0; ahead--) {
-                best[ahead] = Integer.MAX_VALUE;
+                best[ahead] = BEYOND_ALL;
                 for (int next = 0; next < state.count; next++) {
                     if ((ahead >> next & 1) == 0) {
                         best[ahead] = Math.min(best[ahead], paidWith(state, ahead, next));
@@ -1715,7 +1718,7 @@ public final class BowsOwed {
         /** The two that met in as near to half of the sets as can be, but surely neither way. */
         int mostOpen() {
             int open = NONE;
-            int nearest = Integer.MAX_VALUE;
+            int nearest = BEYOND_ALL;
             for (int two = 0; two < twos && two < TWOS; two++) {
                 int off = Math.abs(2 * met[two] - sets);
                 if (off < nearest && off < sets) {

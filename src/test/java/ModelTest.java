@@ -9,6 +9,7 @@ import support.Texts;
 public final class ModelTest {
     private static final int RUNS = 1500;
     private static final int CALLS = 512;
+    private static final int MOODS = 5;
 
     private final Checks checks;
     private final Random random;
@@ -22,7 +23,7 @@ public final class ModelTest {
         this.checks = checks;
         this.random = new Random(seed);
         this.texts = new Texts(random);
-        this.mood = seed % 5;
+        this.mood = seed % MOODS;
     }
 
     public static void main(String[] args) {
@@ -44,6 +45,10 @@ public final class ModelTest {
     }
 
     private void run() {
+        if (mood == 4) {
+            runLaws();
+            return;
+        }
         int people = random.nextInt(8);
         for (int i = 0; i < people; i++) {
             tellPerson();
@@ -56,6 +61,41 @@ public final class ModelTest {
                 look();
             } else {
                 askAll();
+            }
+        }
+    }
+
+    /** Law upon law, each asked of a few people who owe one another little. */
+    private void runLaws() {
+        for (int i = 0; i < 4; i++) {
+            int age = random.nextInt(9);
+            int back = random.nextInt(9);
+            due("person", x.person(age, back, 0), y.person(age, back, 0));
+        }
+        due("hour", x.hour(17), y.hour(17));
+        due("image", x.image(), y.image());
+        while (calls < CALLS - 60) {
+            due("back", x.back(), y.back());
+            for (int i = 0; i < 5; i++) {
+                int a = random.nextInt(4);
+                int b = random.nextInt(4);
+                int what = random.nextInt(9);
+                due("owe", x.owe(a, b, what), y.owe(a, b, what));
+            }
+            String text = texts.laws();
+            tellText(text);
+            due("by", x.by(0), y.by(0));
+            checks.about("laws " + text);
+            for (int i = 0; i < 9; i++) {
+                int a = random.nextInt(4);
+                int b = random.nextInt(4);
+                int given = random.nextInt(9);
+                due("size", x.two(a, b, 1), y.two(a, b, 1));
+                due("late", x.two(a, b, 2), y.two(a, b, 2));
+                due("more", x.more(a, b, given), y.more(a, b, given));
+            }
+            for (int a = 0; a < 4; a++) {
+                due("ruin", x.of(a, 7), y.of(a, 7));
             }
         }
     }

@@ -370,6 +370,12 @@ public final class PromisesTest {
         due("weeks without hours", x.weeks(1, 30), 9999);
         due("a step", x.about(6), steps == 30 ? 30 : steps + 1);
         due("hour 9 yet", x.about(2), 9);
+        x.undo();
+        x.undo();
+        due("hour 8", x.about(2), 8);
+        // 97 by 7 is 6.
+        x.weeks(0, 1);
+        due("the last hour in weeks", x.about(2), 9);
         due("the latest day", x.about(1), 9999);
     }
 
@@ -500,6 +506,14 @@ public final class PromisesTest {
         fault("Feast;", 1, 0);
         fault("feasts;", 1, 0);
         fault("feas;", 1, 0);
+        fault("sizeA 1;", 1, 0);
+        fault("sizeZ 1;", 1, 0);
+        fault("size@1;", 1, 4);
+        fault("size[1;", 1, 4);
+        fault("size`1;", 1, 4);
+        fault("size{1;", 1, 4);
+        fault("size/1;", 1, 4);
+        fault("size:1;", 1, 4);
         fault("late1;", 0, -1);
         fault("hour1;hour2;", 0, -1);
         fault("\tfeast;", 1, 0);
@@ -712,7 +726,12 @@ public final class PromisesTest {
         String[] so = {"100", "110", "001", "011", "010", "101"};
         for (int i = 0; i < signs.length; i++) {
             for (int k = 0; k < 3; k++) {
-                sum("if " + k + signs[i] + "1 then 5 else 6 end", so[i].charAt(k) == '1' ? 5 : 6);
+                boolean is = so[i].charAt(k) == '1';
+                String ask = k + signs[i] + "1";
+                sum("if " + ask + " then 5 else 6 end", is ? 5 : 6);
+                sum("if not " + ask + " then 5 else 6 end", is ? 6 : 5);
+                sum("if 1=1 and " + ask + " then 5 else 6 end", is ? 5 : 6);
+                sum("if 1=2 or " + ask + " then 5 else 6 end", is ? 5 : 6);
             }
         }
         sum("if 1=1 or 1=1 and 1=2 then 5 else 6 end", 5);
@@ -856,6 +875,12 @@ public final class PromisesTest {
         due("steps", x.about(6), 17);
         due("bow", x.played(tell(x, "late 1;bow 3 to 3;")), 1);
         due("owe", x.played(tell(x, "owe 3 to 2 of 0;")), 0);
+        x = town(3);
+        x.owe(1, 2, 5);
+        x.owe(2, 0, 6);
+        x.owe(0, 1, 7);
+        due("clear", x.played(tell(x, "clear 1 and 2 and 0;")), -1);
+        due("by the least", x.two(1, 2, 0) * 100 + x.two(2, 0, 0) * 10 + x.two(0, 1, 0), 12);
         x = town(3);
         due("walk", x.played(tell(x, "walk 2;walk 3;walk 1;")), 1);
         due("what was done stays", x.of(2, 2) * 10 + x.of(1, 2), 10);

@@ -52,6 +52,52 @@ public final class Texts {
         return random.nextInt(5) == 0 ? spoilt(text.toString()) : text.toString();
     }
 
+    /** Laws alone, without a fault, of sums whose parts are small, so that asks go both ways. */
+    public String laws() {
+        StringBuilder text = new StringBuilder();
+        int first = random.nextInt(4);
+        for (int i = 0; i < 4; i++) {
+            int law = (first + i) % 4;
+            String clause = LAWS[law] + " " + small(law, 1 + random.nextInt(4)) + ";";
+            if (text.length() + clause.length() <= 300) {
+                text.append(clause);
+            }
+        }
+        return text.toString();
+    }
+
+    private String leaf(int law) {
+        return " " + (random.nextInt(2) == 0 ? pick(OF_LAW[law]) : "" + random.nextInt(8)) + " ";
+    }
+
+    private String small(int law, int depth) {
+        if (depth == 0) {
+            return leaf(law);
+        }
+        switch (random.nextInt(9)) {
+            case 0: return leaf(law) + "+" + small(law, depth - 1);
+            case 1: return small(law, depth - 1) + "-" + leaf(law);
+            case 2: return leaf(law) + "*(" + small(law, depth - 1) + ")";
+            case 3: return "(" + small(law, depth - 1) + ")/" + leaf(law);
+            case 4: return leaf(law) + "- -(" + small(law, depth - 1) + ")";
+            case 5: return " owed " + pick(" 0 ", " 1 ", " 2 ", " who ", "(" + small(law, depth - 1) + ")")
+                + " to " + pick(" 0 ", " 1 ", " 2 ", " who ", "(" + small(law, depth - 1) + ")");
+            default:
+                return " if " + smallAsks(law, depth - 1) + " then " + small(law, depth - 1)
+                    + " else " + small(law, depth - 1) + " end ";
+        }
+    }
+
+    private String smallAsks(int law, int depth) {
+        StringBuilder asks = new StringBuilder();
+        for (int i = random.nextInt(4); i >= 0; i--) {
+            asks.append(pick("", "", " not ", " not not "));
+            asks.append(small(law, random.nextInt(4) == 0 ? depth : 0)).append(pick(SIGNS)).append(leaf(law));
+            asks.append(i == 0 ? "" : pick(" or ", " and "));
+        }
+        return asks.toString();
+    }
+
     private String person(int people) {
         return "" + (random.nextInt(30) == 0 ? random.nextInt(9) : random.nextInt(Math.max(1, people)));
     }
