@@ -43,6 +43,8 @@ public final class PromisesTest {
         necks();
         image();
         about();
+        farOff(town(0));
+        farOff(town(7));
         CHECKS.finish();
     }
 
@@ -1470,6 +1472,46 @@ public final class PromisesTest {
         due("by none", x.two(0, 1, 1), 1);
         x.back();
         due("back to the new one", x.two(0, 1, 1), 3);
+    }
+
+    /** Wrong numbers far off, each where the others are right. */
+    private static void farOff(BowsOwed x) {
+        CHECKS.about("wrong inputs far off");
+        tell(x, "size 1;");
+        int[] far = {-2147483648, -2147483647, -65536, -3, 10000, 65536, 2147483646, 2147483647};
+        for (int n : far) {
+            due("person " + n, x.person(n, 1, 1) + x.person(1, n, 1) + x.person(1, 1, n), -3);
+            due("bow " + n, x.bow(n, 0) + x.bow(0, n) + x.bow(n, n), -3);
+            due("owe " + n, x.owe(n, 0, 1) || x.owe(0, n, 1) || x.owe(0, 1, n), false);
+            due("walk " + n, x.walk(n, 1) + x.walk(0, n), -2);
+            due("clear " + n, x.clear(n, 0, 1) + x.clear(0, n, 1) + x.clear(0, 1, n), -3);
+            due("hour " + n, x.hour(n), -1);
+            due("weeks " + n, x.weeks(n, 1) + x.weeks(1, n), -2);
+            due("end " + n, x.end(n), -1);
+            due("fault " + n, x.fault(n), -1);
+            due("by " + n, x.by(n), false);
+            due("played " + n, x.played(n), -2);
+            due("of " + n, x.of(n, 0) + x.of(0, n), -2);
+            due("two " + n, x.two(n, 0, 0) + x.two(0, n, 0) + x.two(0, 1, n), -3);
+            due("more " + n, x.more(n, 0, 0) + x.more(0, n, 0) + x.more(0, 1, n), -3);
+            due("book " + n, x.book(n, 0) + x.book(0, n), -4);
+            due("foretold " + n, x.foretold(n, 0, 1) + x.foretold(1, n, 0) + x.foretold(1, 0, n)
+                + x.foretold(1, n, -1), -8);
+            due("indoors " + n, x.indoors(n, 0) + x.indoors(1, n), -4);
+            due("first " + n, x.first(n), -1);
+            due("whose " + n, x.whose(n), -1);
+            due("route " + n, x.route(n, -1) + x.route(0, n), -4);
+            due("lane " + n, x.lane(n, 1, 1, 1, 1, 0) + x.lane(1, n, 1, 1, 1, 0)
+                + x.lane(1, 1, n, 1, 1, 0) + x.lane(1, 1, 1, n, 1, 0) + x.lane(1, 1, 1, 1, n, 0)
+                + x.lane(1, 1, 1, 1, 1, n), -6);
+            due("doors " + n, x.doors(n), -1);
+            due("neck " + n, x.neck(n, 1) || x.neck(0, n), false);
+            due("sure " + n, x.sure(n, 0) + x.sure(0, n), -2);
+            due("about " + n, x.about(n), -2);
+            due("fed", x.feed(n, n, n, n, n), 20);
+            due("and ended", x.end(0), 0);
+        }
+        due("no steps", x.about(6), 0);
     }
 
     private static void about() {
