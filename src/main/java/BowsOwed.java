@@ -1257,7 +1257,10 @@ public final class BowsOwed {
         }
     }
 
-    /** What a script's laws say of the people in a state, and what holds without them. */
+    /**
+     * What a script's laws say of the people in a state, and what holds without them: the bounds of
+     * each law hold in both cases.
+     */
     private static final class Laws {
         static final int FARTHEST = 1000000;
         // Eight things open around one another leave five values each waiting at most.
@@ -1291,11 +1294,12 @@ public final class BowsOwed {
 
         /** How much more one owes to another one that gave more than it owed. */
         int moreOf(int one, int other, int given) {
-            if (!has(MORE)) {
-                return given + given / 10 + 1;
+            int asked = given + given / 10 + 1;
+            if (has(MORE)) {
+                name(one, other, given);
+                asked = run(MORE);
             }
-            name(one, other, given);
-            return clamped(run(MORE), 0, MOST_OWED);
+            return clamped(asked, 0, MOST_OWED);
         }
 
         int lateOf(int one, int other) {
@@ -1308,11 +1312,12 @@ public final class BowsOwed {
         }
 
         int ruinOf(int one) {
-            if (!has(RUIN)) {
-                return 300;
+            int asked = 300;
+            if (has(RUIN)) {
+                name(one, NONE, 0);
+                asked = run(RUIN);
             }
-            name(one, NONE, 0);
-            return clamped(run(RUIN), 0, MOST_OWED);
+            return clamped(asked, 0, MOST_OWED);
         }
 
         private boolean has(int law) {

@@ -1023,7 +1023,9 @@ public final class PromisesTest {
         due("0", x.more(0, 1, 0), 1);
         due("9", x.more(0, 1, 9), 10);
         due("10", x.more(0, 1, 10), 12);
-        due("9999, as nothing bounds it without", x.more(0, 1, 9999), 10999);
+        due("9089", x.more(0, 1, 9089), 9998);
+        due("9090, 9999 at most", x.more(0, 1, 9090), 9999);
+        due("9999, 9999 at most", x.more(0, 1, 9999), 9999);
         due("10000", x.more(0, 1, 10000), -1);
         due("-1", x.more(0, 1, -1), -1);
         due("itself", x.more(1, 1, 1), -1);

@@ -152,7 +152,8 @@ public final class Model {
         if (sum == null) {
             switch (name) {
                 case "size": return owes < 1 ? 1 : owes > 99 ? 99 : owes;
-                case "more": return given + given / 10 + 1;
+                // 9089 and 908 and 1 is 9998, 9090 and 909 and 1 is 10000.
+                case "more": return given > 9089 ? 9999 : given + given / 10 + 1;
                 case "late": return owes * 2 > 9999 ? 9999 : owes * 2;
                 default: return 300;
             }
