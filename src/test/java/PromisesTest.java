@@ -43,8 +43,8 @@ public final class PromisesTest {
         necks();
         image();
         about();
-        farOff(town(0));
-        farOff(town(7));
+        farOff(Towns.town(0));
+        farOff(Towns.town(7));
         CHECKS.finish();
     }
 
@@ -56,42 +56,15 @@ public final class PromisesTest {
         CHECKS.due(call, got, want);
     }
 
-    /** A town whose people are all 50 years old at place 0 and can bend 99 a day. */
-    private static BowsOwed town(int people) {
-        BowsOwed x = new BowsOwed();
-        for (int i = 0; i < people; i++) {
-            x.person(50, 99, 0);
-        }
-        return x;
-    }
-
-    private static void put(BowsOwed x, String text) {
-        x.end(0);
-        for (int from = 0; from < text.length(); from += 20) {
-            int[] five = new int[5];
-            for (int i = 0; i < 20; i++) {
-                int sign = from + i < text.length() ? text.charAt(from + i) : 0;
-                five[i / 4] = five[i / 4] << 8 | sign;
-            }
-            x.feed(five[0], five[1], five[2], five[3], five[4]);
-        }
-        x.end(text.length());
-    }
-
-    private static int tell(BowsOwed x, String text) {
-        put(x, text);
-        return x.text();
-    }
-
     private static void ruled(BowsOwed x, String text) {
-        int told = tell(x, text);
+        int told = Towns.tell(x, text);
         due("by the text " + text, x.by(told), true);
         due("fault of " + text, told, x.about(5));
     }
 
     /** What a sum is, as the law of more, from 0 to 9999, or of what is less, above 9999. */
     private static void sum(String sum, int want) {
-        BowsOwed x = town(3);
+        BowsOwed x = Towns.town(3);
         x.owe(0, 1, 7);
         x.owe(2, 0, 9);
         ruled(x, "more " + sum + ";");
@@ -100,13 +73,9 @@ public final class PromisesTest {
 
     private static void fault(String text, int kind, int place) {
         BowsOwed x = new BowsOwed();
-        due("text " + text, tell(x, text), kind == 0 ? 0 : BowsOwed.NONE);
+        due("text " + text, Towns.tell(x, text), kind == 0 ? 0 : BowsOwed.NONE);
         due("fault of " + text, x.fault(0), kind);
         due("fault's place of " + text, x.fault(1), place);
-    }
-
-    private static String times(String part, int n) {
-        return part.repeat(n);
     }
 
     private static void newObject() {
@@ -121,7 +90,7 @@ public final class PromisesTest {
         due("fault 1", x.fault(1), -1);
         x.person(1, 2, 3);
         x.feast();
-        tell(x, "");
+        Towns.tell(x, "");
         x.by(0);
         due("back", x.back(), 0);
         due("people", x.about(0), 0);
@@ -175,13 +144,13 @@ public final class PromisesTest {
         due("just what is left", x.bow(1, 0), 0);
         due("nothing left", x.bow(1, 0), -1);
 
-        x = town(2);
+        x = Towns.town(2);
         x.owe(0, 1, 150);
         due("99 at most", x.bow(0, 1), 0);
         due("the rest is owed yet", x.two(0, 1, 0), 51);
         due("and nothing for it", x.two(1, 0, 0), 0);
 
-        x = town(2);
+        x = Towns.town(2);
         x.owe(0, 1, 4);
         ruled(x, "size 30;");
         due("30", x.bow(0, 1), 69);
@@ -195,7 +164,7 @@ public final class PromisesTest {
         due("as much as is owed: nothing more", x.two(1, 0, 0), 9999);
         due("nor any rest", x.two(0, 1, 0), 0);
 
-        x = town(2);
+        x = Towns.town(2);
         x.owe(0, 1, 5);
         ruled(x, "size 20; more 100 + owed whom to who;");
         x.bow(0, 1);
@@ -204,7 +173,7 @@ public final class PromisesTest {
 
     private static void owe() {
         CHECKS.about("promise 4");
-        BowsOwed x = town(2);
+        BowsOwed x = Towns.town(2);
         due("owe", x.owe(0, 1, 9999), true);
         due("so already", x.owe(0, 1, 9999), false);
         due("0", x.owe(0, 1, 0), true);
@@ -239,7 +208,7 @@ public final class PromisesTest {
 
     private static void feast() {
         CHECKS.about("promise 6");
-        BowsOwed x = town(4);
+        BowsOwed x = Towns.town(4);
         x.owe(0, 1, 5);
         x.owe(0, 2, 9);
         x.owe(0, 3, 9);
@@ -263,7 +232,7 @@ public final class PromisesTest {
 
     private static void clear() {
         CHECKS.about("promise 7");
-        BowsOwed x = town(4);
+        BowsOwed x = Towns.town(4);
         x.owe(0, 1, 9);
         x.owe(1, 2, 4);
         due("one owes nothing", x.clear(0, 1, 2), -1);
@@ -293,7 +262,7 @@ public final class PromisesTest {
 
     private static void hour() {
         CHECKS.about("promise 8");
-        BowsOwed x = town(3);
+        BowsOwed x = Towns.town(3);
         due("0", x.hour(0), -1);
         due("61", x.hour(61), -1);
         due("-1", x.hour(-1), -1);
@@ -323,14 +292,14 @@ public final class PromisesTest {
         due("out again", x.of(0, 4), 0);
         due("and 2", x.of(2, 4), 0);
 
-        x = town(2);
+        x = Towns.town(2);
         x.owe(0, 1, 301);
         x.hour(10);
         x.owe(0, 1, 301);
         due("ruined indoors", x.hour(10), 1);
         due("for three days again", x.of(0, 4), 3);
 
-        x = town(2);
+        x = Towns.town(2);
         x.owe(0, 1, 6000);
         ruled(x, "ruin 9999;");
         due("9999 isn't above", x.hour(10), 0);
@@ -338,8 +307,8 @@ public final class PromisesTest {
     }
 
     private static BowsOwed atLastDay() {
-        BowsOwed x = town(2);
-        int year = tell(x, times("hour 60;", 24));
+        BowsOwed x = Towns.town(2);
+        int year = Towns.tell(x, Towns.times("hour 60;", 24));
         for (int i = 0; i < 69; i++) {
             x.played(year);
         }
@@ -350,7 +319,7 @@ public final class PromisesTest {
         CHECKS.about("promises 8, 9, 15, 21: the last hour");
         BowsOwed x = atLastDay();
         due("69 * 144 days", x.about(1), 9936);
-        int rest = tell(x, times("hour 60;", 10) + "hour 28;feast;");
+        int rest = Towns.tell(x, Towns.times("hour 60;", 10) + "hour 28;feast;");
         due("played up to hour 8", x.played(rest), -1);
         due("day", x.about(1), 9998);
         due("hour", x.about(2), 8);
@@ -365,7 +334,7 @@ public final class PromisesTest {
         due("nothing done", x.about(2), 7);
         x.owe(0, 1, 5);
         due("foretold what can pass", x.foretold(60, 0, 1), 5);
-        due("those that can pass do, then it ends", x.played(tell(x, "walk 1;hour 5;feast;")), 1);
+        due("those that can pass do, then it ends", x.played(Towns.tell(x, "walk 1;hour 5;feast;")), 1);
         due("they passed", x.about(2), 9);
         due("no feast", x.two(0, 1, 0), 5);
         int steps = x.about(6);
@@ -383,7 +352,7 @@ public final class PromisesTest {
 
     private static void weeks() {
         CHECKS.about("promise 9");
-        BowsOwed x = town(3);
+        BowsOwed x = Towns.town(3);
         due("seed 10000", x.weeks(10000, 1), -1);
         due("seed -1", x.weeks(-1, 1), -1);
         due("n 0", x.weeks(0, 0), -1);
@@ -411,7 +380,7 @@ public final class PromisesTest {
     /** One deed by each of many seeds, told from the draws by hand. */
     private static void checkDeeds() {
         for (int seed = 0; seed < 60; seed++) {
-            BowsOwed x = town(2);
+            BowsOwed x = Towns.town(2);
             x.owe(0, 1, 3);
             x.weeks(seed, 1);
             int at = seed * 2 + 97;
@@ -429,7 +398,7 @@ public final class PromisesTest {
             due("draws of " + seed, x.about(3), draws(at, deed >= 5 ? 2 : 3));
         }
         // One indoors can't walk, but its way is drawn.
-        BowsOwed x = town(1);
+        BowsOwed x = Towns.town(1);
         x.person(1, 1, 0);
         x.owe(0, 1, 301);
         x.owe(1, 0, 301);
@@ -474,13 +443,13 @@ public final class PromisesTest {
         CHECKS.about("promise 12");
         BowsOwed x = new BowsOwed();
         due("without bytes", x.text(), 0);
-        due("blanks", tell(x, " \n "), 1);
-        due("with a fault", tell(x, "feast"), -1);
+        due("blanks", Towns.tell(x, " \n "), 1);
+        due("with a fault", Towns.tell(x, "feast"), -1);
         due("the tape is empty", x.about(7), 0);
-        due("third", tell(x, "feast;"), 2);
-        due("fourth", tell(x, "one 1 back 2 at 3;"), 3);
+        due("third", Towns.tell(x, "feast;"), 2);
+        due("fourth", Towns.tell(x, "one 1 back 2 at 3;"), 3);
         due("tape", x.about(7), 0);
-        put(x, "late;");
+        Towns.put(x, "late;");
         due("a fifth", x.text(), -1);
         due("the tape stays", x.about(7), 5);
         due("it isn't read", x.fault(0), 0);
@@ -492,12 +461,12 @@ public final class PromisesTest {
     private static void faultsByToken() {
         CHECKS.about("promise 13: 1, 5");
         BowsOwed x = new BowsOwed();
-        tell(x, "feast;walk");
+        Towns.tell(x, "feast;walk");
         due("kind", x.fault(0), 1);
         due("place", x.fault(1), 10);
         due("2", x.fault(2), -1);
         due("-1", x.fault(-1), -1);
-        tell(x, "feast;");
+        Towns.tell(x, "feast;");
         due("without", x.fault(0), 0);
         due("no place", x.fault(1), -1);
 
@@ -621,26 +590,26 @@ public final class PromisesTest {
 
     private static void faultsByDepthAndCount() {
         CHECKS.about("promise 13: 3, 4, 6");
-        fault("size " + times("(", 8) + "1" + times(")", 8) + ";", 0, -1);
-        fault("size " + times("(", 9) + "1" + times(")", 9) + ";", 3, 13);
-        fault("size " + times("-", 8) + "1;", 0, -1);
-        fault("size " + times("-", 9) + "1;", 3, 13);
-        fault("size " + times("owed ", 8) + times("1 to 1 ", 1) + times("to 1 ", 7) + ";", 0, -1);
-        fault("size " + times("owed ", 9) + "1;", 3, 45);
-        fault("size if " + times("not ", 7) + "1=1 then 2 else 3 end;", 0, -1);
-        fault("size if " + times("not ", 8) + "1=1 then 2 else 3 end;", 3, 36);
-        fault("size if 1=1 then " + times("(", 8) + "1;", 3, 24);
-        fault("size if 1=1 then 1 else " + times("(", 8) + "1;", 3, 31);
-        fault("size owed " + times("-", 7) + "1 to " + times("-", 7) + "1;", 0, -1);
-        fault("size owed 1 to " + times("-", 8) + "1;", 3, 22);
-        fault("size (1)+" + times("(", 8) + "1" + times(")", 8) + ";", 0, -1);
-        fault("size -1--1-" + times("-", 8) + "1;", 0, -1);
-        fault("size if " + times("if 1=1 then 1 else 2 end=1 and ", 3)
+        fault("size " + Towns.times("(", 8) + "1" + Towns.times(")", 8) + ";", 0, -1);
+        fault("size " + Towns.times("(", 9) + "1" + Towns.times(")", 9) + ";", 3, 13);
+        fault("size " + Towns.times("-", 8) + "1;", 0, -1);
+        fault("size " + Towns.times("-", 9) + "1;", 3, 13);
+        fault("size " + Towns.times("owed ", 8) + Towns.times("1 to 1 ", 1) + Towns.times("to 1 ", 7) + ";", 0, -1);
+        fault("size " + Towns.times("owed ", 9) + "1;", 3, 45);
+        fault("size if " + Towns.times("not ", 7) + "1=1 then 2 else 3 end;", 0, -1);
+        fault("size if " + Towns.times("not ", 8) + "1=1 then 2 else 3 end;", 3, 36);
+        fault("size if 1=1 then " + Towns.times("(", 8) + "1;", 3, 24);
+        fault("size if 1=1 then 1 else " + Towns.times("(", 8) + "1;", 3, 31);
+        fault("size owed " + Towns.times("-", 7) + "1 to " + Towns.times("-", 7) + "1;", 0, -1);
+        fault("size owed 1 to " + Towns.times("-", 8) + "1;", 3, 22);
+        fault("size (1)+" + Towns.times("(", 8) + "1" + Towns.times(")", 8) + ";", 0, -1);
+        fault("size -1--1-" + Towns.times("-", 8) + "1;", 0, -1);
+        fault("size if " + Towns.times("if 1=1 then 1 else 2 end=1 and ", 3)
             + "1=1 then 1 else 2 end;", 0, -1);
-        fault("size " + times("(", 8) + "if 1=1 then 1 else 2 end;", 3, 13);
-        fault("size " + times("(", 8) + "not 1;", 1, 13);
-        fault("size " + times("(", 8) + "10000;", 2, 13);
-        fault("more " + times("(", 8) + "back;", 5, 13);
+        fault("size " + Towns.times("(", 8) + "if 1=1 then 1 else 2 end;", 3, 13);
+        fault("size " + Towns.times("(", 8) + "not 1;", 1, 13);
+        fault("size " + Towns.times("(", 8) + "10000;", 2, 13);
+        fault("more " + Towns.times("(", 8) + "back;", 5, 13);
 
         fault("size 1;size 2;", 4, 7);
         fault("more 1;late 1;more 2;", 4, 14);
@@ -648,22 +617,22 @@ public final class PromisesTest {
         fault("ruin 1;feast;ruin !", 4, 13);
         fault("size 1;more 1;late 1;ruin 1;", 0, -1);
 
-        fault(times("feast;", 24), 0, -1);
-        fault(times("feast;", 25), 6, 144);
-        fault(times("feast;", 24) + " size 1;", 6, 145);
-        fault("late 1;" + times("feast;", 23) + "late 1;", 4, 145);
-        fault(times("feast;", 24) + "due;", 1, 144);
-        fault(times("feast;", 24) + "\n", 0, -1);
+        fault(Towns.times("feast;", 24), 0, -1);
+        fault(Towns.times("feast;", 25), 6, 144);
+        fault(Towns.times("feast;", 24) + " size 1;", 6, 145);
+        fault("late 1;" + Towns.times("feast;", 23) + "late 1;", 4, 145);
+        fault(Towns.times("feast;", 24) + "due;", 1, 144);
+        fault(Towns.times("feast;", 24) + "\n", 0, -1);
     }
 
     private static void by() {
         CHECKS.about("promise 14");
-        BowsOwed x = town(2);
+        BowsOwed x = Towns.town(2);
         due("none such", x.by(0), false);
         due("none", x.by(-1), true);
         due("-2", x.by(-2), false);
-        tell(x, "size 12;");
-        tell(x, "size 34;");
+        Towns.tell(x, "size 12;");
+        Towns.tell(x, "size 34;");
         due("not yet", x.two(0, 1, 1), 1);
         due("0", x.by(0), true);
         due("the text", x.about(5), 0);
@@ -783,7 +752,7 @@ public final class PromisesTest {
 
     /** The size that the second one of two has by a sum. */
     private static int sized(BowsOwed x, String sum) {
-        tell(x, "size " + sum + ";");
+        Towns.tell(x, "size " + sum + ";");
         x.by(x.about(4) - 1);
         int size = x.two(1, 0, 1);
         x.by(-1);
@@ -792,7 +761,7 @@ public final class PromisesTest {
 
     private static void lawBounds() {
         CHECKS.about("texts: bounds of laws");
-        BowsOwed x = town(2);
+        BowsOwed x = Towns.town(2);
         due("size without", x.two(0, 1, 1), 1);
         x.owe(0, 1, 99);
         due("size 99", x.two(0, 1, 1), 99);
@@ -816,7 +785,7 @@ public final class PromisesTest {
 
     private static void nightInOrder() {
         CHECKS.about("an hour: in order");
-        BowsOwed x = town(3);
+        BowsOwed x = Towns.town(3);
         for (int i = 0; i < 3; i++) {
             x.owe(i, (i + 1) % 3, 1);
             x.owe(i, (i + 2) % 3, 1);
@@ -829,7 +798,7 @@ public final class PromisesTest {
         due("1 to 0 then", x.two(1, 0, 0), 9);
         due("1 to 2", x.two(1, 2, 0), 9);
 
-        x = town(2);
+        x = Towns.town(2);
         x.owe(0, 1, 10);
         x.owe(1, 0, 11);
         ruled(x, "late owes; ruin owed 0 to 1;");
@@ -837,19 +806,19 @@ public final class PromisesTest {
         due("10 isn't above itself", x.of(0, 4), 0);
         due("11 is", x.of(1, 4), 3);
 
-        x = town(2);
+        x = Towns.town(2);
         x.owe(0, 1, 10);
         x.owe(1, 0, 10);
         ruled(x, "late owes; ruin 5+9*who*owed 0 to 1;");
         due("what 0 owed is gone when 1 is asked", x.hour(10), 2);
 
-        x = town(2);
+        x = Towns.town(2);
         x.owe(0, 1, 1);
         ruled(x, "late 1000*day+hour+10; ruin 2000;");
         x.hour(10);
         due("the new day's hour 0", x.two(0, 1, 0), 1010);
 
-        x = town(2);
+        x = Towns.town(2);
         x.bow(0, 1);
         x.owe(0, 1, 99);
         ruled(x, "late owes; ruin back;");
@@ -863,7 +832,7 @@ public final class PromisesTest {
         BowsOwed x = new BowsOwed();
         due("none such", x.played(0), -2);
         due("NONE", x.played(-1), -2);
-        int text = tell(x, "size 5;one 1 back 90 at 7;one 3 back 90 at 7;bow 0 to 1;more 1;"
+        int text = Towns.tell(x, "size 5;one 1 back 90 at 7;one 3 back 90 at 7;bow 0 to 1;more 1;"
             + "owe 1 to 0 of 70;walk 0;retreat 1;hour 12;feast;");
         due("all", x.played(text), -1);
         due("laws do nothing", x.about(5), -1);
@@ -875,32 +844,32 @@ public final class PromisesTest {
         due("two more told", x.played(text), 3);
         due("they are there", x.about(0), 4);
         due("steps", x.about(6), 17);
-        due("bow", x.played(tell(x, "late 1;bow 3 to 3;")), 1);
-        due("owe", x.played(tell(x, "owe 3 to 2 of 0;")), 0);
-        x = town(3);
+        due("bow", x.played(Towns.tell(x, "late 1;bow 3 to 3;")), 1);
+        due("owe", x.played(Towns.tell(x, "owe 3 to 2 of 0;")), 0);
+        x = Towns.town(3);
         x.owe(1, 2, 5);
         x.owe(2, 0, 6);
         x.owe(0, 1, 7);
-        due("clear", x.played(tell(x, "clear 1 and 2 and 0;")), -1);
+        due("clear", x.played(Towns.tell(x, "clear 1 and 2 and 0;")), -1);
         due("by the least", x.two(1, 2, 0) * 100 + x.two(2, 0, 0) * 10 + x.two(0, 1, 0), 12);
-        x = town(3);
-        due("walk", x.played(tell(x, "walk 2;walk 3;walk 1;")), 1);
+        x = Towns.town(3);
+        due("walk", x.played(Towns.tell(x, "walk 2;walk 3;walk 1;")), 1);
         due("what was done stays", x.of(2, 2) * 10 + x.of(1, 2), 10);
-        due("clear", x.played(tell(x, "feast;clear 0 and 1 and 2;")), 1);
-        int cleared = tell(x, "retreat 2;owe 0 to 1 of 4;owe 1 to 2 of 4;owe 2 to 0 of 5;"
+        due("clear", x.played(Towns.tell(x, "feast;clear 0 and 1 and 2;")), 1);
+        int cleared = Towns.tell(x, "retreat 2;owe 0 to 1 of 4;owe 1 to 2 of 4;owe 2 to 0 of 5;"
             + "clear 0 and 1 and 2;retreat 5;");
         due("cleared", x.played(cleared), 5);
         due("by 4", x.of(2, 5) + x.of(0, 5), 1);
         for (int i = 0; i < 4; i++) {
             x.person(1, 1, 1);
         }
-        due("an 8th", x.played(tell(x, "one 1 back 1 at 1;")), 0);
+        due("an 8th", x.played(Towns.tell(x, "one 1 back 1 at 1;")), 0);
         due("4", x.played(4), -2);
     }
 
     private static void undo() {
         CHECKS.about("promise 16");
-        BowsOwed x = town(3);
+        BowsOwed x = Towns.town(3);
         due("none", x.undo(), -1);
         x.owe(0, 1, 40);
         x.walk(2, 1);
@@ -928,7 +897,7 @@ public final class PromisesTest {
         due("none any more", x.undo(), -1);
         due("people stay", x.about(0), 4);
 
-        x = town(2);
+        x = Towns.town(2);
         x.owe(0, 1, 500);
         x.hour(10);
         x.person(7, 77, 7);
@@ -946,7 +915,7 @@ public final class PromisesTest {
         due("told since: left", x.of(2, 3), 77);
         due("told since: owes", x.of(2, 5), 0);
 
-        x = town(2);
+        x = Towns.town(2);
         for (int i = 0; i < 35; i++) {
             x.owe(0, 1, 100 + i);
         }
@@ -992,7 +961,7 @@ public final class PromisesTest {
 
     private static void two() {
         CHECKS.about("promise 18");
-        BowsOwed x = town(3);
+        BowsOwed x = Towns.town(3);
         x.owe(0, 1, 12);
         x.walk(2, 1);
         due("owes", x.two(0, 1, 0), 12);
@@ -1019,7 +988,7 @@ public final class PromisesTest {
 
     private static void more() {
         CHECKS.about("promise 19");
-        BowsOwed x = town(2);
+        BowsOwed x = Towns.town(2);
         due("0", x.more(0, 1, 0), 1);
         due("9", x.more(0, 1, 9), 10);
         due("10", x.more(0, 1, 10), 12);
@@ -1038,7 +1007,7 @@ public final class PromisesTest {
 
     private static void book() {
         CHECKS.about("promise 20");
-        BowsOwed x = town(3);
+        BowsOwed x = Towns.town(3);
         due("none", x.book(-1, 0), 0);
         due("0 of none", x.book(0, 0), -2);
         x.owe(1, 0, 200);
@@ -1059,7 +1028,7 @@ public final class PromisesTest {
         due("what 3", x.book(0, 3), -2);
         due("what -1", x.book(0, -1), -2);
 
-        x = town(2);
+        x = Towns.town(2);
         for (int i = 0; i < 33; i++) {
             x.owe(0, 1, 200 + i);
             x.hour(10);
@@ -1076,7 +1045,7 @@ public final class PromisesTest {
 
     private static void foretold() {
         CHECKS.about("promise 21");
-        BowsOwed x = town(3);
+        BowsOwed x = Towns.town(3);
         x.owe(0, 1, 20);
         x.owe(0, 2, 30);
         x.hour(5);
@@ -1102,7 +1071,7 @@ public final class PromisesTest {
 
     private static void indoors() {
         CHECKS.about("promise 22");
-        BowsOwed x = town(2);
+        BowsOwed x = Towns.town(2);
         x.owe(0, 1, 100);
         due("10", x.indoors(10, 0), 0);
         due("20", x.indoors(20, 0), 3);
@@ -1118,7 +1087,7 @@ public final class PromisesTest {
 
     private static void first() {
         CHECKS.about("promise 23");
-        BowsOwed x = town(4);
+        BowsOwed x = Towns.town(4);
         due("none", x.first(60), -1);
         x.owe(1, 0, 100);
         x.owe(3, 0, 200);
@@ -1137,17 +1106,17 @@ public final class PromisesTest {
 
     private static void whose() {
         CHECKS.about("promise 24");
-        BowsOwed x = town(3);
+        BowsOwed x = Towns.town(3);
         x.owe(0, 1, 100);
         x.owe(1, 2, 200);
         due("no text", x.whose(60), -1);
-        tell(x, "late 400;");
+        Towns.tell(x, "late 400;");
         due("the only one", x.whose(60), 0);
-        tell(x, "ruin 350;");
+        Towns.tell(x, "ruin 350;");
         due("one less in 10 hours", x.whose(10), 1);
         due("both ruin both in 60, the lowest", x.whose(60), 0);
-        tell(x, "late owes;");
-        tell(x, "late owes-1;");
+        Towns.tell(x, "late owes;");
+        Towns.tell(x, "late owes-1;");
         due("the lowest of the best", x.whose(60), 2);
         x.by(3);
         due("whoever rules", x.whose(60), 2);
@@ -1166,17 +1135,9 @@ public final class PromisesTest {
         due("-2", x.route(one, -2), -2);
     }
 
-    private static BowsOwed ring(int... places) {
-        BowsOwed x = new BowsOwed();
-        for (int place : places) {
-            x.person(30, 99, place);
-        }
-        return x;
-    }
-
     private static void route() {
         CHECKS.about("promise 25");
-        BowsOwed x = ring(0, 2, 6, 4);
+        BowsOwed x = Towns.ring(0, 2, 6, 4);
         way(x, 0);
         x.owe(0, 1, 1);
         way(x, 0, 1, 1);
@@ -1189,19 +1150,19 @@ public final class PromisesTest {
         due("nobody", x.route(4, -1), -2);
         due("-1", x.route(-1, -1), -2);
 
-        x = ring(0, 3, 1, 5);
+        x = Towns.ring(0, 3, 1, 5);
         x.owe(0, 1, 5);
         noWay(x, 0);
-        x = ring(0, 4);
+        x = Towns.ring(0, 4);
         x.owe(0, 1, 5);
         way(x, 0, 1, 1, 1, 1);
-        x = ring(0, 5, 7);
+        x = Towns.ring(0, 5, 7);
         x.owe(0, 1, 5);
         way(x, 0, 1, 1, 1, 1, 1);
-        x = ring(0, 5, 5, 0);
+        x = Towns.ring(0, 5, 5, 0);
         x.owe(0, 1, 5);
         way(x, 0, -1, -1, -1);
-        x = ring(0, 0);
+        x = Towns.ring(0, 0);
         x.owe(0, 1, 5);
         way(x, 0);
         routeAtStart();
@@ -1214,25 +1175,25 @@ public final class PromisesTest {
 
     private static void routeAtStart() {
         // With somebody at its own place whom it owes nothing it can't come back there.
-        BowsOwed x = ring(0, 0, 1, 7);
+        BowsOwed x = Towns.ring(0, 0, 1, 7);
         x.owe(0, 2, 1);
         x.owe(0, 3, 1);
         way(x, 0, 1, 1, 1, 1, 1, 1, 1);
         // Shut in on both sides it turns once: 3 and back, and 3 more.
-        x = ring(0, 4, 3, 5);
+        x = Towns.ring(0, 4, 3, 5);
         x.owe(0, 2, 1);
         x.owe(0, 3, 1);
         way(x, 0, 1, 1, 1, -1, -1, -1, -1, -1, -1);
-        x = ring(0, 5, 4, 6);
+        x = Towns.ring(0, 5, 4, 6);
         x.owe(0, 2, 1);
         x.owe(0, 3, 1);
         way(x, 0, -1, -1, 1, 1, 1, 1, 1, 1);
-        x = ring(0, 0, 1, 7, 4);
+        x = Towns.ring(0, 0, 1, 7, 4);
         x.owe(0, 2, 1);
         x.owe(0, 3, 1);
         noWay(x, 0);
         // One indoors is neither met nor shunned.
-        x = ring(0, 1, 2);
+        x = Towns.ring(0, 1, 2);
         x.owe(1, 0, 301);
         x.hour(10);
         x.owe(0, 1, 5);
@@ -1244,10 +1205,10 @@ public final class PromisesTest {
 
     private static void settled() {
         CHECKS.about("promise 26");
-        BowsOwed x = town(0);
+        BowsOwed x = Towns.town(0);
         due("nobody", x.settled(false), 0);
         due("no sets", x.settled(true), 0);
-        x = town(5);
+        x = Towns.town(5);
         due("all even", x.settled(false), 0);
         due("one by one", x.settled(true), 5);
         x.owe(0, 1, 5);
@@ -1261,7 +1222,7 @@ public final class PromisesTest {
         due("4 sets again", x.settled(true), 4);
         x.owe(3, 0, 5);
         due("a ring is even", x.settled(false), 0);
-        x = town(7);
+        x = Towns.town(7);
         x.owe(0, 6, 1);
         x.owe(1, 6, 2);
         x.owe(2, 6, 4);
@@ -1318,9 +1279,9 @@ public final class PromisesTest {
 
     private static void doors() {
         CHECKS.about("promise 28");
-        doors(town(0), 0);
-        doors(town(3), 0, 0, 1, 2);
-        BowsOwed x = town(3);
+        doors(Towns.town(0), 0);
+        doors(Towns.town(3), 0, 0, 1, 2);
+        BowsOwed x = Towns.town(3);
         x.owe(0, 1, 5);
         doors(x, 0, 1, 0, 2);
         x.owe(1, 2, 4);
@@ -1331,7 +1292,7 @@ public final class PromisesTest {
         x.owe(0, 1, 3);
         x.owe(1, 2, 3);
         doors(x, 3, 0, 2, 1);
-        x = town(7);
+        x = Towns.town(7);
         x.owe(0, 6, 9);
         x.owe(5, 1, 9);
         doors(x, 0, 1, 2, 3, 4, 5, 6, 0);
@@ -1339,11 +1300,11 @@ public final class PromisesTest {
 
     private static void necks() {
         CHECKS.about("promises 29 to 32");
-        BowsOwed x = town(0);
+        BowsOwed x = Towns.town(0);
         due("nobody's neck", x.neck(0, 1), false);
         due("the empty set", x.explained(), 1);
         due("corner of nobody", x.corner(), -1);
-        x = town(7);
+        x = Towns.town(7);
         due("all sets of ten twos", x.explained(), 1024);
         due("neck of 4", x.neck(4, 999), true);
         due("neck of 5", x.neck(5, 1), false);
@@ -1359,7 +1320,7 @@ public final class PromisesTest {
         due("corner: the lowest of like ones", x.corner(), 1);
         due("steps", x.about(6), 0);
 
-        x = town(4);
+        x = Towns.town(4);
         x.owe(0, 1, 2);
         x.owe(0, 2, 3);
         x.owe(0, 3, 5);
@@ -1391,13 +1352,13 @@ public final class PromisesTest {
     }
 
     private static void corners() {
-        BowsOwed x = town(3);
+        BowsOwed x = Towns.town(3);
         x.owe(0, 1, 4);
         x.owe(0, 2, 0);
         x.neck(0, 4);
         due("0 and 1 met", x.sure(0, 1), 1);
         due("not in all", x.corner(), 2);
-        x = town(5);
+        x = Towns.town(5);
         x.owe(4, 0, 1);
         x.owe(4, 1, 1);
         x.owe(4, 2, 1);
@@ -1406,13 +1367,13 @@ public final class PromisesTest {
         // One of three met 4: a third each; the others are free, so in half of the sets.
         due("three of 128", x.explained(), 3 * 128);
         due("the lowest half", x.corner(), 1);
-        x = town(6);
+        x = Towns.town(6);
         due("no fifth two", x.sure(0, 5), -1);
         due("34", x.sure(4, 3), -1);
         x.owe(3, 4, 1);
         x.neck(3, 1);
         due("34 met", x.sure(4, 3), 1);
-        x = town(5);
+        x = Towns.town(5);
         int[][] twos = {{0, 1}, {0, 2}, {0, 3}, {1, 2}, {1, 3}, {2, 3}, {1, 4}, {2, 4}, {3, 4}, {0, 4}};
         for (int i = 0; i < 9; i++) {
             x.owe(twos[i][0], twos[i][1], 1 << i);
@@ -1427,22 +1388,22 @@ public final class PromisesTest {
 
     private static void image() {
         CHECKS.about("promises 33, 34");
-        BowsOwed x = town(2);
+        BowsOwed x = Towns.town(2);
         x.owe(0, 1, 100);
         x.hour(25);
-        tell(x, "size 9;");
+        Towns.tell(x, "size 9;");
         x.by(0);
         x.neck(0, 3);
         due("day", x.image(), 2);
         x.hour(10);
         x.person(1, 2, 3);
-        tell(x, "size 5;");
+        Towns.tell(x, "size 5;");
         x.by(1);
         x.neck(0, 7);
         x.weeks(5, 4);
         x.owe(1, 0, 99);
-        tell(x, "size !;");
-        put(x, "feast;");
+        Towns.tell(x, "size !;");
+        Towns.put(x, "feast;");
         due("back", x.back(), 2);
         due("people", x.about(0), 2);
         due("hour", x.about(2), 5);
@@ -1466,7 +1427,7 @@ public final class PromisesTest {
             x.undo();
         }
         due("steps of the image", x.about(1) + x.about(2) + x.of(0, 5), 0);
-        due("another text", tell(x, "size 3;"), 1);
+        due("another text", Towns.tell(x, "size 3;"), 1);
         x.by(1);
         due("is itself", x.two(0, 1, 1), 3);
         due("a new image", x.image(), 0);
@@ -1479,7 +1440,7 @@ public final class PromisesTest {
     /** Wrong numbers far off, each where the others are right. */
     private static void farOff(BowsOwed x) {
         CHECKS.about("wrong inputs far off");
-        tell(x, "size 1;");
+        Towns.tell(x, "size 1;");
         int[] far = {-2147483648, -2147483647, -65536, -3, 10000, 65536, 2147483646, 2147483647};
         for (int n : far) {
             due("person " + n, x.person(n, 1, 1) + x.person(1, n, 1) + x.person(1, 1, n), -3);
@@ -1518,11 +1479,11 @@ public final class PromisesTest {
 
     private static void about() {
         CHECKS.about("promise 35");
-        BowsOwed x = town(5);
+        BowsOwed x = Towns.town(5);
         x.hour(13);
         x.weeks(0, 1);
-        tell(x, "feast;");
-        tell(x, "");
+        Towns.tell(x, "feast;");
+        Towns.tell(x, "");
         x.by(1);
         x.feed(0, 0, 0, 0, 0);
         x.end(7);
