@@ -23,6 +23,7 @@ public final class BoundsOfForesightTest {
         routeOfAllTowns();
         settled();
         settledByParts();
+        settledAndDoors();
         laneBounds();
         laneOfOne();
         laneOfTwo();
@@ -480,6 +481,23 @@ public final class BoundsOfForesightTest {
         }
     }
 
+    private static void settledAndDoors() {
+        CHECKS.about("SETTLED and DOORS, asked by turns");
+        BowsOwed x = Towns.town(4);
+        x.owe(0, 1, 5);
+        x.owe(1, 0, 5);
+        x.owe(2, 3, 6);
+        for (int i = 0; i < 3; i++) {
+            settled(x, 1, 3);
+            order(x, 5, 0, 1, 3, 2);
+        }
+        x.owe(1, 2, 7);
+        for (int i = 0; i < 3; i++) {
+            order(x, 5, 0, 3, 2, 1);
+            settled(x, 2, 2);
+        }
+    }
+
     private static void laneBounds() {
         CHECKS.about("A LANE of n steps (1 .. 20); (0 .. 99 each), (0 .. 999), (0 .. 9999)");
         BowsOwed x = new BowsOwed();
@@ -549,6 +567,14 @@ public final class BoundsOfForesightTest {
             lane(x, new int[] {n, 5, 0, 9, 4}, n, 4, 4);
             lane(x, new int[] {n, 5, 1, 9, 9999}, 0, 5, 9);
         }
+        lane(x, new int[] {1, 1, 1, 0, 1}, 0, 1, 0);
+        lane(x, new int[] {1, 1, 1, 0, 2}, 0, 1, 0);
+        lane(x, new int[] {2, 1, 1, 0, 1}, 0, 1, 0);
+        lane(x, new int[] {2, 1, 1, 0, 2}, 1, 0, 2);
+        lane(x, new int[] {3, 1, 1, 0, 2}, 1, 0, 2);
+        lane(x, new int[] {3, 1, 1, 0, 3}, 0, 1, 0);
+        lane(x, new int[] {4, 1, 1, 0, 3}, 0, 1, 0);
+        lane(x, new int[] {4, 1, 1, 0, 4}, 1, 0, 2);
         // At 2 the first one bows for 14 at most: then the second one waits at 1, else it bows there.
         lane(x, new int[] {3, 10, 2, 11, 14}, 0, 10, 11);
         lane(x, new int[] {3, 10, 2, 11, 13}, 1, 9, 12);

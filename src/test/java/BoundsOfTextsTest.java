@@ -7,7 +7,9 @@ public final class BoundsOfTextsTest {
     public static void main(String[] args) {
         tapeFull();
         tapeEnd();
+        cutAnywhere();
         bytesInOrder();
+        readAgain();
         numbersOfTexts();
         fifthText();
         longTexts();
@@ -20,6 +22,7 @@ public final class BoundsOfTextsTest {
         numbersOfDeeds();
         openedOfAKind();
         openedTogether();
+        openedFull();
         openedBehind();
         lawsTwice();
         clauses();
@@ -119,6 +122,38 @@ public final class BoundsOfTextsTest {
         due("0 behind it", x.end(0), 0);
     }
 
+    /** What was cut from a tape is not read, wherever it was cut. */
+    private static void cutAnywhere() {
+        CHECKS.about("The tape has its first n bytes alone");
+        String whole = "size if 1<=22 then 3 else 4>=5 end; hour 60;\nretreat 12345 and so on;  ";
+        for (int n = 0; n <= whole.length(); n++) {
+            BowsOwed x = new BowsOwed();
+            Towns.put(x, whole);
+            due("end", x.end(n), n);
+            int cut = x.text();
+            BowsOwed y = new BowsOwed();
+            due("text of " + n, cut, Towns.tell(y, whole.substring(0, n)));
+            due("fault of " + n, x.fault(0), y.fault(0));
+            due("place of " + n, x.fault(1), y.fault(1));
+            due("within " + n, x.fault(1) <= n, true);
+        }
+        BowsOwed x = new BowsOwed();
+        Towns.put(x, "size if 1<=2 then 3 else 4 end;");
+        x.end(10);
+        due("cut between < and =", x.text(), -1);
+        due("at the length", x.fault(0) * 100 + x.fault(1), 110);
+        Towns.put(x, "feast;");
+        x.end(5);
+        due("cut ahead of ;", x.text(), -1);
+        due("at the length", x.fault(0) * 100 + x.fault(1), 105);
+        Towns.put(x, "hour 60;");
+        x.end(6);
+        x.feed(0x3b202020, 0x20202020, 0x20202020, 0x20202020, 0x20202020);
+        due("6 instead of 60", x.text(), 0);
+        x.played(0);
+        due("six hours", x.about(2), 6);
+    }
+
     private static void bytesInOrder() {
         CHECKS.about("Twenty bytes come behind the tape, the highest of a first");
         for (int place = 0; place < 20; place++) {
@@ -136,6 +171,24 @@ public final class BoundsOfTextsTest {
             x.text();
             due("its first byte", x.fault(0) * 100 + x.fault(1), 100);
         }
+    }
+
+    private static void readAgain() {
+        CHECKS.about("texts read one behind the other leave nothing");
+        BowsOwed x = Towns.town(2);
+        for (int i = 0; i < 12; i++) {
+            due("with a fault", Towns.tell(x, "more 1" + times("+1", 130) + "; late 7; ruin 8"), -1);
+            due("at its end", x.fault(1), 282);
+        }
+        due("without late and ruin", Towns.rule(x, "more 11" + times("+1", 140) + ";"), true);
+        due("its own sum", x.more(0, 1, 5), 151);
+        due("ruin as without", x.of(0, 7), 300);
+        x.owe(0, 1, 4);
+        due("late as without", x.two(0, 1, 2), 8);
+        due("size as without", x.two(0, 1, 1), 4);
+        due("a shorter one", Towns.rule(x, "late 9;"), true);
+        due("more as without", x.more(0, 1, 5), 6);
+        due("late", x.two(0, 1, 2), 9);
     }
 
     private static void numbersOfTexts() {
@@ -183,6 +236,9 @@ public final class BoundsOfTextsTest {
         sound(times(" ", 294) + "feast;");
         fault(times(" ", 295) + "feast", 1, 300);
         fault(times(" ", 299) + ";", 1, 299);
+        fault(times(" ", 290) + "size if 1<", 1, 300);
+        fault(times(" ", 290) + "size if 1>", 1, 300);
+        fault(times(" ", 293) + "hour 60", 1, 300);
         fault(times("a", 300), 1, 0);
         fault(times("1", 300), 1, 0);
         sound("size " + times("0", 290) + "9999;");
@@ -391,6 +447,18 @@ public final class BoundsOfTextsTest {
         fault(seven.replace("then 1", "then --1"), 3, seven.indexOf("then 1") + 6);
         sound(seven.replace("else 1", "else -1"));
         fault(seven.replace("else 1", "else --1"), 3, seven.indexOf("else 1") + 6);
+    }
+
+    private static void openedFull() {
+        CHECKS.about("eight open around one another, each with all that can wait ahead of it");
+        // Of each: a side of or, one of and, one of <, one of + and one of *.
+        String ahead = times("if 1=2or 1=1and 1<1+1*", 8);
+        String behind = times("then1else0end ", 8);
+        for (int inner = 0; inner <= 1; inner++) {
+            BowsOwed x = Towns.town(2);
+            due("a text", Towns.rule(x, "more " + ahead + inner + behind + ";"), true);
+            due("1 is above 0 alone", x.more(0, 1, 40), inner);
+        }
     }
 
     private static void openedBehind() {

@@ -894,7 +894,8 @@ public final class BoundsOfTownTest {
     /** One deed by each of many seeds, told from the draws by hand. */
     private static void weeksDeeds(int people) {
         CHECKS.about("0, 1, 2: .. BOWS; 3: it WALKS; 4: A FEAST; 5, 6: an HOUR; of " + people);
-        for (int seed = 0; seed < 9999; seed += 7) {
+        // By 11 each of the seven deeds comes in turn.
+        for (int seed = 0; seed <= 9999; seed += 11) {
             BowsOwed x = Towns.town(people);
             x.owe(0, 1, 3);
             x.weeks(seed, 1);
@@ -950,6 +951,11 @@ public final class BoundsOfTownTest {
         due("X", x.about(3), after(0, 1));
         due("nor this one", x.weeks(3, 1), 9999);
         due("hour yet", x.about(2), 9);
+        x = Towns.at(9999, 8, 1);
+        due("the last one can", x.weeks(0, 1), 9999);
+        due("hour 9", x.about(2), 9);
+        due("no more", x.weeks(0, 1), 9999);
+        due("hour 9 yet", x.about(2), 9);
         x = Towns.at(9998, 9, 1);
         due("one that can, seed 3", x.weeks(3, 1), 9999);
         due("hour 0", x.about(2), 0);
