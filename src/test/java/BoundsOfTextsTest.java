@@ -520,6 +520,15 @@ public final class BoundsOfTextsTest {
         due("24 walks", Towns.tell(x, times("walk 0;", 24)), 0);
         due("all are played", x.played(0), -1);
         due("24 steps", x.about(6), 24);
+        x = Towns.town(3);
+        due("its numbers", Towns.tell(x, times("feast;", 23) + "owe 2 to 1 of 9999;"), 0);
+        due("of the 24th", Towns.tell(x, times("feast;", 23) + "one 11 back 22 at 3;"), 1);
+        due("as of the first", Towns.tell(x, "one 44 back 55 at 6;" + times("feast;", 23)), 2);
+        due("owes", x.played(0) * 10000 + x.two(2, 1, 0), -1);
+        due("told", x.played(1) * 10 + x.about(0), -6);
+        due("as told", x.of(3, 0) * 1000 + x.of(3, 1) * 10 + x.of(3, 2), 11223);
+        due("told again", x.played(2) * 10 + x.about(0), -5);
+        due("as told", x.of(4, 0) * 1000 + x.of(4, 1) * 10 + x.of(4, 2), 44556);
     }
 
     private static void leastOfOne() {
